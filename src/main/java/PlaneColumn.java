@@ -916,8 +916,10 @@ public final class PlaneColumn {
             if (size + times > MOST_NUMBERS) {
                 return begin;
             }
-            Arrays.fill(numbers, size, size + times, number);
-            size += times;
+            for (int i = 0; i < times; i++) {
+                numbers[size] = number;
+                size++;
+            }
             return RIGHT;
         }
 
@@ -1190,6 +1192,7 @@ public final class PlaneColumn {
         private static final int LANE = 8;
         private static final long LANE_MASK = 255L;
         private static final int LEAST_RUNS = 2;
+        private static final int MORE_THAN_ALL = LEVELS * MOST_NUMBERS + 1;
 
         // A number lies here with each of its bits in a lane of eight bits of its own, so that
         // the changes of all bits between neighbours are counted by one addition.
@@ -1212,7 +1215,7 @@ public final class PlaneColumn {
                 size = howMany;
                 int varied = takeLine(numbers);
                 variedCount = Integer.bitCount(varied);
-                fewest = variedCount == 0 ? 0 : Integer.MAX_VALUE;
+                fewest = variedCount == 0 ? 0 : MORE_THAN_ALL;
                 tryBits(0, varied, 0);
                 fillOrder(varied);
                 fewest += size == 0 ? 0 : LEVELS - variedCount;
