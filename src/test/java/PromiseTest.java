@@ -54,6 +54,8 @@ public final class PromiseTest {
         count();
         row();
         refusals();
+        bitsBehindChanges();
+        ends();
         System.out.println(wrong == 0 ? "PromiseTest: all answers are as due" : "PromiseTest: " + wrong + " wrong");
         if (wrong != 0) {
             System.exit(1);
@@ -437,6 +439,94 @@ public final class PromiseTest {
         due(four, four.thrift(), 11, 7, 6, 5, 4, 3, 2, 0, 1);
         four.cuts(3);
         due(four, four.thrift(), 6 + 2 + 2, 7, 6, 5, 4, 3, 2, 0, 1);
+        // Equal either way: bit 7 is 01 and bit 6 is 01, so the greater one comes first.
+        PlaneColumn equal = of("0,192");
+        due(equal, equal.thrift(), 6 + 2 + 2, 7, 6, 5, 4, 3, 2, 1, 0);
+        thriftBehindChanges();
+    }
+
+    private static void thriftBehindChanges() {
+        long[] sixFirst = {6, 7, 5, 4, 3, 2, 1, 0};
+        long[] sevenFirst = {7, 6, 5, 4, 3, 2, 1, 0};
+        PlaneColumn x = of("0,128,64,192");
+        due(x, x.thrift(), 12, sixFirst);
+        due(x, x.thrift(), 12, sixFirst);
+        columnOf(x, "0,64,128,192");
+        due(x, x.thrift(), 12, sevenFirst);
+        due(planesOf(x, "0101/0101/0000/0000/0000/0000/0000/0000"), 4);
+        due(x, x.thrift(), 12, sixFirst);
+        x.reverses(1, 3);
+        due(x, x.thrift(), 12, sevenFirst);
+        x.swaps(1, 2);
+        due(x, x.thrift(), 12, sixFirst);
+        x.puts(1, 0);
+        due(x, x.thrift(), 10, sevenFirst);
+        columnOf(x, "0");
+        due(x, x.thrift(), 8, sevenFirst);
+        x.adds(255);
+        due(x, x.thrift(), 16, sevenFirst);
+        x.cuts(1);
+        due(x, x.thrift(), 8, sevenFirst);
+        columnOf(x, "");
+        due(x, x.thrift(), 0, sevenFirst);
+    }
+
+    /** BITS follow each way in which NUMBERS come and go. */
+    private static void bitsBehindChanges() {
+        promise(11);
+        PlaneColumn x = new PlaneColumn();
+        x.adds(255);
+        due(x, x.level(7), 0, 1, 1);
+        x.adds(0);
+        due(x, x.level(0), 1, 1, 2);
+        due(x, x.level(7), 1, 2, 2);
+        x.swaps(0, 1);
+        due(x, x.level(0), 1, 2, 2);
+        x.reverses(0, 2);
+        due(x, x.level(0), 1, 1, 2);
+        planesOf(x, "110/001/000/000/000/000/000/111");
+        due(x, x.level(0), 1, 3, 2);
+        due(x, x.level(7), 0, 7, 1);
+        x.puts(2, 255);
+        due(x, x.level(0), 0, 7, 1);
+        x.cuts(2);
+        due(x, x.level(0), 0, 3, 1);
+        columnOf(x, "0x3");
+        due(x, x.level(0), 3, 0, 1);
+    }
+
+    /** The least and the greatest NUMBER there is, in all calls that go through the NUMBERS. */
+    private static void ends() {
+        promise(0);
+        PlaneColumn x = of("255,0,255,0,0,9,255");
+        due(x, x.kth(0, 7, 6), 255, 3, 0);
+        due(x, x.band(0, 7, 255, 255), 3, 9);
+        due(x, x.band(0, 7, 0, 0), 3, 9);
+        due(x.often(0, 7, 3), 2);
+        due(x.row(1), 0);
+        due(x.row(3), 255);
+        due(x, x.across(0, 7, 0, 6), 255, 255);
+        due(x, x.across(0, 7, 255, 6), 255, 0);
+        due(x, x.across(0, 1, 255, 0), 0, 255);
+        due(x, x.farthest(0, 1, 255), 0, 255, 1);
+        due(x, x.lone(0, 2), 2, 0, 255);
+        due(x, x.lone(4, 7), 3, 0, 255);
+        due(x, x.gap(0, 7), 246, 9, 255);
+        due(x, x.gap(4, 6), 9, 0, 9);
+        due(x, x.mode(1, 7), 0, 3);
+        due(x, x.mode(5, 6), 9, 1);
+        due(x, x.sums(1, 4, 3), 255, 255);
+        due(x, x.sums(3, 5, 4), -2, 255);
+        due(x, x.common(0, 5, 2, 7), 2, 17, 0, 3, 2, 255, 2, 2);
+        due(x, x.common(0, 4, 3, 7), 2, 17, 0, 2, 2, 255, 2, 1);
+        due(x, x.lacking(0, 2, 5, 6), 2, 0, 1, 255, 1);
+        due(x, x.both(0, 7, 0, 7, 13), 255, 3, 3);
+        due(x, x.both(0, 7, 3, 7, 0), 0, 3, 2);
+        due(x, x.same(1, 2, 3, 5), 0, 0, 0, 1);
+        due(x, x.same(0, 1, 2, 2), 0, 255, 1, 0);
+        due(x, x.marks(0, 7, 255), 3, 0, 2, 6);
+        due(x, x.dense(0, 7, 254), 4, 0);
+        due(x, x.fit(0, 7, 9), 4, 9);
     }
 
     // ---- one span
