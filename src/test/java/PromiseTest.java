@@ -1,14 +1,7 @@
-import java.util.NoSuchElementException;
-
 /** Each promise of the document with ordinary inputs, the edges that it names and wrong inputs. */
-public final class PromiseTest {
-    private static final int LOW = Integer.MIN_VALUE;
-    private static final int HIGH = Integer.MAX_VALUE;
+public final class PromiseTest extends TestBase {
     private static final String FOUR = "3,1,2,1";
     private static final String EIGHT = "200,5,5,130,7,200,64,0";
-    private static int wrong = 0;
-    private static int promise = 0;
-    private static int step = 0;
 
     public static void main(String[] args) {
         newObject();
@@ -56,74 +49,11 @@ public final class PromiseTest {
         refusals();
         bitsBehindChanges();
         ends();
-        System.out.println(wrong == 0 ? "PromiseTest: all answers are as due" : "PromiseTest: " + wrong + " wrong");
-        if (wrong != 0) {
-            System.exit(1);
-        }
+        finish("PromiseTest");
     }
-
-    // ---- how a test is written
 
     private static void promise(int number) {
-        promise = number;
-        step = 0;
-    }
-
-    private static void due(long got, long want) {
-        step++;
-        if (got != want) {
-            wrong++;
-            System.out.println("promise " + promise + ", step " + step + ": answered " + got + ", due is " + want);
-        }
-    }
-
-    /** The answer and the whole ROW. */
-    private static void due(PlaneColumn x, long got, long want, long... row) {
-        due(got, want);
-        dueRow(x, row);
-    }
-
-    private static void dueRow(PlaneColumn x, long... row) {
-        due(x.count(2), row.length);
-        for (int i = 0; i < row.length && i < x.count(2); i++) {
-            due(x.row(i), row[i]);
-        }
-    }
-
-    private static void dueNumbers(PlaneColumn x, int... numbers) {
-        due(x.count(0), numbers.length);
-        for (int i = 0; i < numbers.length; i++) {
-            due(x.rank(numbers[i], i + 1) - x.rank(numbers[i], i), 1);
-        }
-    }
-
-    private static void write(PlaneColumn x, String text) {
-        x.end(0);
-        for (int i = 0; i < text.length(); i += 4) {
-            int v = 0;
-            for (int k = i; k < i + 4; k++) {
-                v = v << 8 | (k < text.length() ? text.charAt(k) : 0);
-            }
-            x.sign(v);
-        }
-        x.end(text.length());
-    }
-
-    private static PlaneColumn of(String text) {
-        PlaneColumn x = new PlaneColumn();
-        write(x, text);
-        x.column();
-        return x;
-    }
-
-    private static int columnOf(PlaneColumn x, String text) {
-        write(x, text);
-        return x.column();
-    }
-
-    private static int planesOf(PlaneColumn x, String text) {
-        write(x, text);
-        return x.planes();
+        begin("promise " + number);
     }
 
     /** A text that is right and longer than a column: many parts. */
@@ -994,16 +924,6 @@ public final class PromiseTest {
         dueThrows(x, HIGH);
         x.marks(0, 8, 9);
         dueThrows(x, 0);
-    }
-
-    private static void dueThrows(PlaneColumn x, int i) {
-        int thrown = 0;
-        try {
-            x.row(i);
-        } catch (NoSuchElementException e) {
-            thrown = 1;
-        }
-        due(thrown, 1);
     }
 
     /** The ROW stays with calls that tell none, and with answers below 0. */
