@@ -9,6 +9,7 @@ public final class EdgePlanesTest extends TestBase {
         runs();
         thrift();
         thriftOfSeveral();
+        thriftOfAnotherColumn();
         finish("EdgePlanesTest");
     }
 
@@ -232,12 +233,58 @@ public final class EdgePlanesTest extends TestBase {
             due(x, x.thrift(), 2 + 4 + 6 * 2, 0, 7, 6, 5, 4, 3, 2, 1);
         });
         test("promise 15: parted likewise: first those that have 0", () -> {
-            // By bit 1 first: 0, 1 and 2, 3 stand parted, so that bit 0 has 0101; by bit 0 first: 0, 2, 1, 3.
+            // Bit 1: 100, 2 RUNS; then 1, 0, 2: bit 0 has 100, 2 RUNS. With 2 ahead of 1, 0 it had 010.
+            PlaneColumn x = of("2,1,0");
+            due(x, x.thrift(), 6 + 2 + 2, DOWNWARD);
+            // Bit 1: 100, 2 RUNS; then 1, 0, 3: bit 0 has 101, 3 RUNS. With 3 ahead of 1, 0 it had 110.
+            columnOf(x, "3,1,0");
+            due(x, x.thrift(), 6 + 2 + 3, DOWNWARD);
+        });
+        test("promise 15: parted likewise: in the order in which they stand", () -> {
+            // Bit 1: 1010, 4 RUNS; then 0, 1, 2, 3: bit 0 has 0101, 4 RUNS.
+            // Bit 0: 0011, 2 RUNS; then 2, 0, 3, 1: bit 1 has 1010, 4 RUNS.
             PlaneColumn x = of("2,0,3,1");
-            // bit 1: 1010, 4 RUNS; then 0, 1, 2, 3: bit 0 has 0101, 4 RUNS.
-            // bit 0: 0011, 2 RUNS; then 2, 0, 3, 1: bit 1 has 1010, 4 RUNS.
             due(x.runs(), 6 + 4 + 4);
             due(x, x.thrift(), 6 + 2 + 4, 7, 6, 5, 4, 3, 2, 0, 1);
+        });
+    }
+
+    private static void thriftOfAnotherColumn() {
+        Ask[] changes = {x -> x.adds(9), x -> x.puts(1, 77), x -> x.cuts(3), x -> x.swaps(1, 2), x -> x.reverses(0, 3),
+            x -> columnOf(x, "9,200,9,77,0,255,128,1,64,3"), x -> columnOf(x, ""), x -> columnOf(x, "5x64"),
+            x -> planesOf(x, "0110/0101/0000/0000/0000/0000/0000/1010")};
+        for (int i = 0; i < changes.length; i++) {
+            Ask change = changes[i];
+            test("promise 15: of the COLUMN as it is now: change " + i, () -> {
+                PlaneColumn asked = of("0,254,1,255");
+                asked.thrift();
+                change.of(asked);
+                PlaneColumn fresh = of("0,254,1,255");
+                change.of(fresh);
+                due(asked.thrift(), fresh.thrift());
+                due(seen(asked), seen(fresh));
+            });
+        }
+        test("promise 15: bits that all have alike, behind a COLUMN in which they were not", () -> {
+            PlaneColumn x = of("0,254,1,255");
+            due(x, x.thrift(), 18, 0, 7, 6, 5, 4, 3, 2, 1);
+            columnOf(x, "0,128");
+            due(x, x.thrift(), 9, DOWNWARD);
+            columnOf(x, "0,128,1,129");
+            due(x, x.thrift(), 12, 6, 5, 4, 3, 2, 1, 0, 7);
+            columnOf(x, "6,6");
+            due(x, x.thrift(), 8, DOWNWARD);
+            columnOf(x, "");
+            due(x, x.thrift(), 0, DOWNWARD);
+        });
+        test("promise 15: a refused change leaves the answer", () -> {
+            PlaneColumn x = of("0,128,1,129");
+            x.thrift();
+            due(x.puts(0, 0), -4);
+            due(columnOf(x, "7,"), -1 - 2);
+            due(planesOf(x, "0"), -1 - 1);
+            due(x.cuts(4), MISSING);
+            due(x, x.thrift(), 12, 6, 5, 4, 3, 2, 1, 0, 7);
         });
     }
 }

@@ -753,7 +753,14 @@ public final class EdgeSpanTest extends TestBase {
             PlaneColumn x = of("10,20,5,11,3,4");
             due(x, x.rises(0, 6), 2, 4, 4);
             due(x, x.rises(0, 4), 2, 11, 3);
+            due(x, x.rises(0, 3), 2, 20, 1);
             due(x, x.rises(0, 2), 2, 20, 1);
+        });
+        test("promise 35: in how many ways so many can be taken: not in how many fewer can", () -> {
+            PlaneColumn x = of("9,5,6,10");
+            due(x, x.rises(0, 4), 3, 10, 1);
+            columnOf(x, "9,8,7,5,5,6,10,10");
+            due(x, x.rises(0, 8), 3, 10, 2 * 2);
         });
         test("promise 35: (NONE of an empty SPAN), 0 of an empty SPAN", () -> {
             PlaneColumn x = of("5,6");
